@@ -212,6 +212,8 @@ public final class AskTest {
         dueFound(x, 4, -1, "u0");
         dueFound(x, -1, -1, "");
         dueFound(x, 5, 4, "u0");
+        named(x, 0, 3, 8, "u0");
+        dueFound(x, 0, -1, "u0");
     }
 
     private static void range(Run x, int entry, int form, long low, long high) {

@@ -127,6 +127,16 @@ public final class MadeByHandTest {
         x.due(31, "entry", 29, 1);
         x.due(Run.UNSUPPORTED, "entry", 31, 1);
         x.due(32, "count", 0);
+        // What lay deep before does not lie deep when it is a root.
+        x.due(32, "clear");
+        x.due(0, "unit", 1);
+        for (int e = 1; e < 6; e++) {
+            x.due(e, "unit", 1);
+        }
+        for (int e = 6; e < 36; e++) {
+            x.due(e, "entry", e - 1, 1);
+        }
+        x.due(Run.UNSUPPORTED, "entry", 35, 1);
     }
 
     private static void number() {
@@ -234,10 +244,31 @@ public final class MadeByHandTest {
         x.due(2, "bytes", 0, 2, 8);
         x.tape("z");
         x.due(Run.UNSUPPORTED, "bytes", 0, 3, 10);
+        x.due(3, "number", 0, 3, 11, 1);
+        x.due(4, "reference", 0, 4, 21, 0);
+        x.due("void", "end", 0);
+        x.due(5, "bytes", 0, 5, 10);
         x.due(1, "count", 3);
+        x.tape("z");
         x.due(16, "clear");
         x.due(0, "unit", 1);
         x.due(1, "bytes", 0, 3, 10);
+        fillAgain(x);
+    }
+
+    /** All of the room is there again when all is gone. */
+    private static void fillAgain(Run x) {
+        for (int i = 0; i < 117; i++) {
+            if (i % 8 == 0) {
+                x.due(1 + i / 8, "entry", 0, 2);
+            }
+            x.tape("y".repeat(255));
+            x.due(1 + i % 8, "bytes", 1 + i / 8, 1 + i, 10);
+        }
+        x.tape("z".repeat(165));
+        x.due(Run.UNSUPPORTED, "bytes", 0, 1, 8);
+        x.due("void", "end", 164);
+        x.due(2, "bytes", 0, 1, 8);
     }
 
     private static void reference() {

@@ -12,6 +12,7 @@ public final class ReadTest {
         shapeNumbers();
         shapeTags();
         shapeAttributes();
+        shapeNumbersApart();
         shapeLimits();
         rows();
         signedRows();
@@ -181,6 +182,23 @@ public final class ReadTest {
                 NO_TEXTS);
     }
 
+    /** Numbers far apart, each of them found, none told twice. */
+    private static void shapeNumbersApart() {
+        int[] shapes = {};
+        int[] inside = row(1);
+        for (int i = 0; i < 40; i++) {
+            int[] number = i == 0 ? row(1) : row(0x80, 0x80 | i % 64 << 1, i / 64);
+            shapes = join(shapes, number, row(20 + i, i == 0 ? 1 : 0, 0, 0));
+            inside = i == 0 ? inside : join(inside, number);
+        }
+        Run x = dueRead("15 numbers apart", 40, unit(0, join(inside, row(0))), join(shapes, row(0)), NO_TEXTS);
+        for (int i = 0; i < 40; i++) {
+            x.due(20 + i, "about", i, 0);
+        }
+        dueFault("16 one of them told twice", 3, 1, shapes.length, unit(0, 1), join(shapes, row(1)));
+        dueFault("16 another told twice", 3, 1, shapes.length, unit(0, 1), join(shapes, row(0x80, 0x82, 0)));
+    }
+
     private static int[] table(int shapes) {
         int[] table = {};
         for (int i = 1; i <= shapes; i++) {
@@ -203,6 +221,9 @@ public final class ReadTest {
         x.due(value, "value", 0, 0);
         x.due(form, "attribute", 0, 0, 1);
         x.due(2, "attribute", 0, 0, 0);
+        if (form != 8 && form != 10) {
+            x.due(0, "attribute", 0, 0, 2);
+        }
         return x;
     }
 
@@ -326,6 +347,7 @@ public final class ReadTest {
                     .dueFault(6, 0, 12);
         }
         dueBadValue(6, 0, 14, 0, 0, 0, 0);
+        dueLetters(dueRead("15 an empty text first", 1, unit(0, 1, 0, 0, 0, 0), oneForm(14), row(0)), "");
         // What was read stays when the sections change.
         Run x = dueRead("15 texts are kept", 1, unit(0, 1, 0, 0, 0, 0), oneForm(14), kept);
         x.load(2);
@@ -394,6 +416,9 @@ public final class ReadTest {
         x.dueFault(8, 0, 11 + most.length + 1);
         x.load(0, unit(0, join(most, row(3, 0, 0))));
         x.due(120, "read");
+        x.due('t', "letter", 118, 0, 164);
+        x.due(120, "read");
+        x.due('t', "letter", 118, 0, 164);
         // A wrong value is no value that is too much.
         x.load(0, unit(0, join(most, row(2, 0, 1, 0, 0))));
         x.dueFault(6, 0, 11 + most.length + 1);
@@ -465,5 +490,23 @@ public final class ReadTest {
         x.due(16, "about", 0, 0);
         x.due(0, "alter", 1, 1, 16);
         x.dueFault(3, 1, 1);
+        x.due(17, "alter", 1, 1, 17);
+        x.due(5, "read");
+        x.due(0, "fault", 0);
+        x.due(0, "fault", 1);
+        placesAfterReading();
+    }
+
+    /** Places are reckoned anew for what was read. */
+    private static void placesAfterReading() {
+        Run x = loaded("15 places", unit(0, 1, 7, 1, 8, 0, 1, 9, 0, 0), row(1, 17, 1, 2, 11, 0, 0, 0), NO_TEXTS);
+        x.due(0, "unit", 1);
+        x.due(1, "entry", 0, 1);
+        x.due(12, "about", 1, 5);
+        x.due(2, "count", 2);
+        x.due(3, "read");
+        x.due(13, "about", 1, 5);
+        x.due(15, "about", 2, 5);
+        x.due(2, "count", 2);
     }
 }

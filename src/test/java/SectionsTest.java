@@ -1,3 +1,5 @@
+import java.util.Arrays;
+
 /** Promises 10 to 14, and the places of promise 18: what is written, and the sections' bytes. */
 public final class SectionsTest {
     public static void main(String[] args) {
@@ -171,6 +173,31 @@ public final class SectionsTest {
         x.due(10, "entry", 9, 1);
         x.due(7, "count", 2);
         manyShapes();
+        shapesOfManyNames();
+        shapesOfManyForms();
+    }
+
+    private static void shapesOfManyNames() {
+        Run x = new Run("17 shapes of many names");
+        x.due(0, "unit", 1);
+        for (int e = 1; e < 400; e++) {
+            x.due(e, "entry", 0, 1);
+            x.due(1, "number", e, 1 + e % 300 * 54, 25, 1);
+        }
+        x.due(301, "count", 2);
+    }
+
+    private static void shapesOfManyForms() {
+        int[] forms = {5, 6, 7, 11, 12, 13, 15, 25};
+        Run x = new Run("17 shapes of many forms");
+        x.due(0, "unit", 1);
+        for (int i = 0; i < 192; i++) {
+            x.due(i + 1, "entry", 0, 1);
+            int swap = i / 64;
+            x.due(1, "number", i + 1, swap == 1 ? 2 : 1, forms[i % 8], 1);
+            x.due(2, "number", i + 1, swap == 1 ? 1 : 2, forms[i / 8 % 8], 1);
+        }
+        x.due(129, "count", 2);
     }
 
     /** The 128th shape's number has two bytes, in its table and at each entry. */
@@ -204,10 +231,56 @@ public final class SectionsTest {
         x.due(4, "count", 3);
         x.answer("write");
         x.dueSection(2, 'a', 0, 0, 'b', 0, 'a', 'b', 0);
+        int[] first = textUnit(1, 0, 2, 3, 1, 'c');
+        int[] second = textUnit(2, 5, 0, 5, 'c', 0);
+        int[] both = Arrays.copyOf(first, first.length + second.length);
+        System.arraycopy(second, 0, both, first.length, second.length);
+        x.dueSection(0, both);
+        manyTexts();
+    }
+
+    /** A unit of a shape, three places of texts, and two bytes. */
+    private static int[] textUnit(int shape, int a, int b, int c, int d, int e) {
+        return new int[] {22, 0, 0, 0, 4, 0, 0, 0, 0, 0, 8, shape, a, 0, 0, 0, b, 0, 0, 0, c, 0, 0, 0, d, e};
+    }
+
+    private static void manyTexts() {
+        Run x = new Run("17 many texts");
+        x.due(0, "unit", 1);
+        for (int i = 0; i < 600; i++) {
+            if (i % 8 == 0) {
+                x.due(1 + i / 8, "entry", 0, 1);
+            }
+            x.tape(Integer.toString(100 + i % 300));
+            x.due(1 + i % 8, "bytes", 1 + i / 8, 1 + i % 8, 14);
+        }
+        x.due(300, "count", 3);
+        x.answer("write");
+        x.due(1200, "size", 2);
+        x.due(76, "read");
+        for (int i = 0; i < 600; i++) {
+            String text = Integer.toString(100 + i % 300);
+            for (int k = 0; k < 3; k++) {
+                x.due(text.charAt(k), "letter", 1 + i / 8, i % 8, k);
+            }
+        }
     }
 
     private static void growingRows() {
-        Run x = new Run("10, 18 growing rows");
+        growFrom(new Run("10, 18 growing rows"));
+        // Rows begin with one byte each again, however large they were before.
+        Run x = new Run("10, 18 growing rows again");
+        x.due(0, "unit", 1);
+        for (int e = 1; e < 200; e++) {
+            x.due(e, "entry", 0, 2);
+        }
+        x.due(1, "reference", 0, 1, 21, 199);
+        x.due(212, "about", 199, 5);
+        x.due(200, "clear");
+        growFrom(x);
+    }
+
+    private static void growFrom(Run x) {
         x.due(0, "unit", 1);
         x.due(1, "entry", 0, 2);
         x.due(2, "entry", 0, 2);
