@@ -180,11 +180,13 @@ public final class SectionsTest {
     private static void shapesOfManyNames() {
         Run x = new Run("17 shapes of many names");
         x.due(0, "unit", 1);
-        for (int e = 1; e < 400; e++) {
+        for (int e = 1; e < 399; e++) {
             x.due(e, "entry", 0, 1);
             x.due(1, "number", e, 1 + e % 300 * 54, 25, 1);
         }
         x.due(301, "count", 2);
+        x.due(399, "entry", 0, 1);
+        x.due(302, "count", 2);
     }
 
     private static void shapesOfManyForms() {
@@ -267,16 +269,10 @@ public final class SectionsTest {
     }
 
     private static void growingRows() {
-        growFrom(new Run("10, 18 growing rows"));
+        Run x = new Run("10, 18 growing rows");
+        growFrom(x);
         // Rows begin with one byte each again, however large they were before.
-        Run x = new Run("10, 18 growing rows again");
-        x.due(0, "unit", 1);
-        for (int e = 1; e < 200; e++) {
-            x.due(e, "entry", 0, 2);
-        }
-        x.due(1, "reference", 0, 1, 21, 199);
-        x.due(212, "about", 199, 5);
-        x.due(200, "clear");
+        x.due(3, "clear");
         growFrom(x);
     }
 
@@ -284,7 +280,7 @@ public final class SectionsTest {
         x.due(0, "unit", 1);
         x.due(1, "entry", 0, 2);
         x.due(2, "entry", 0, 2);
-        // Entry 2 lies at 127 when the first row has one byte, and then at 127 still: nothing grows.
+        // With one byte in the row entry 2 lies at 127, and wants no more, though two bytes would do as well.
         x.due(1, "reference", 0, 1, 21, 2);
         x.tape("t".repeat(112));
         x.due(1, "bytes", 1, 1, 8);
@@ -409,6 +405,11 @@ public final class SectionsTest {
         x.due(Run.OUT_OF_BOUNDS, "octet", -1, 0);
         x.load(0);
         x.due(Run.OUT_OF_BOUNDS, "octet", 0, 0);
+        x.load(2, 5);
+        x.due(Run.OUT_OF_BOUNDS, "octet", 3, 0);
+        x.due(Run.OUT_OF_BOUNDS, "octet", -1, 0);
+        x.due(Run.OUT_OF_BOUNDS, "alter", 3, 0, 1);
+        x.due(5, "octet", 2, 0);
     }
 
     private static void load() {
