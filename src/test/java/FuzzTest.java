@@ -183,7 +183,6 @@ public final class FuzzTest {
         build(3 + draw(40));
         compareAll();
         both("write");
-        String before = real.picture();
         for (int i = 0; i < 25; i++) {
             hurt();
             both("read");
@@ -194,7 +193,6 @@ public final class FuzzTest {
             }
         }
         compareAll();
-        Run.same("something was drawn", before.isEmpty(), false);
     }
 
     private void hurt() {
