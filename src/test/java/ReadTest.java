@@ -1,11 +1,7 @@
 import java.util.Arrays;
 
 /** Promises 15 and 16: what read() takes, and each fault's kind, section and place. */
-public final class ReadTest {
-    private static final int[] NO_TEXTS = {};
-    /** Shape 1 is tag 17 without children or attributes. */
-    private static final int[] PLAIN = {1, 17, 0, 0, 0, 0};
-
+public final class ReadTest extends Octets {
     public static void main(String[] args) {
         right();
         header();
@@ -29,35 +25,6 @@ public final class ReadTest {
         Run.finish();
     }
 
-    /** A unit with right header around some bytes. */
-    private static int[] unit(int table, int... inside) {
-        int follow = inside.length + 7;
-        int[] head = {follow & 255, follow >> 8, 0, 0, 4, 0, table & 255, table >> 8, 0, 0, 8};
-        return join(head, inside);
-    }
-
-    private static int[] join(int[]... parts) {
-        int[] all = {};
-        for (int[] part : parts) {
-            int from = all.length;
-            all = Arrays.copyOf(all, from + part.length);
-            System.arraycopy(part, 0, all, from, part.length);
-        }
-        return all;
-    }
-
-    private static int[] times(int many, int... part) {
-        int[] all = new int[many * part.length];
-        for (int i = 0; i < all.length; i++) {
-            all[i] = part[i % part.length];
-        }
-        return all;
-    }
-
-    private static int[] row(int... octets) {
-        return octets;
-    }
-
     private static Run loaded(String title, int[] entries, int[] shapes, int[] texts) {
         Run x = new Run(title);
         x.loadAll(entries, shapes, texts);
@@ -77,11 +44,6 @@ public final class ReadTest {
         x.due(0, "fault", 1);
         x.due(many, "count", 0);
         return x;
-    }
-
-    /** A shape of tag 17 with just one attribute, of name 2, in a table. */
-    private static int[] oneForm(int form) {
-        return row(1, 17, 0, 2, form, 0, 0, 0);
     }
 
     private static void right() {
@@ -197,14 +159,6 @@ public final class ReadTest {
         }
         dueFault("16 one of them told twice", 3, 1, shapes.length, unit(0, 1), join(shapes, row(1)));
         dueFault("16 another told twice", 3, 1, shapes.length, unit(0, 1), join(shapes, row(0x80, 0x82, 0)));
-    }
-
-    private static int[] table(int shapes) {
-        int[] table = {};
-        for (int i = 1; i <= shapes; i++) {
-            table = join(table, row(0x80 + i % 128, i / 128, 17, 0, 0, 0));
-        }
-        return join(table, row(0));
     }
 
     private static void shapeLimits() {

@@ -17,6 +17,7 @@ final class Run {
 
     private final Object subject;
     private final String title;
+    private int calls;
 
     Run(String title) {
         this(title, new EntryTree());
@@ -29,6 +30,7 @@ final class Run {
 
     /** What a call answers: a number, "void", or throws. and the exact class of the exception. */
     String call(String name, long... args) {
+        calls++;
         Method method = METHODS.computeIfAbsent(subject.getClass(), Run::methodsOf).get(name);
         Class<?>[] types = method.getParameterTypes();
         Object[] values = new Object[types.length];
@@ -84,6 +86,15 @@ final class Run {
 
     static boolean anyWrong() {
         return wrong != 0;
+    }
+
+    static int wrongAnswers() {
+        return wrong;
+    }
+
+    /** How many calls were made on the object. */
+    int calls() {
+        return calls;
     }
 
     /** Lets the tape hold just these bytes. */
