@@ -1,3 +1,5 @@
+import java.util.Arrays;
+
 /** The sentences of promises 10 to 16: the sections, written, loaded, altered and read. */
 public final class SentencesOfPromises10To16Test extends Sentences {
     private static final int[] NO_SECTIONS = {-1, 3, Integer.MIN_VALUE, Integer.MAX_VALUE};
@@ -47,6 +49,18 @@ public final class SentencesOfPromises10To16Test extends Sentences {
             same("the trees", x.picture(), before);
             x.due(2, "read");
             same("the trees, read again", x.picture(), before);
+        });
+        sentence("Promise 10", "The trees are WRITTEN: how many bytes all sections have", "again and again", () -> {
+            Run x = rooted();
+            for (int k = 1; k <= 3; k++) {
+                x.tape('a' + k, 'c');
+                x.due(k, "bytes", 0, k, 14);
+                x.due(12 + 4 * k + 6 + 2 * k + 3 * k, "write");
+                int[] texts = row('b', 'c', 0, 'c', 'c', 0, 'd', 'c', 0);
+                int[] places = row(0, 0, 0, 0, 3, 0, 0, 0, 6, 0, 0, 0);
+                x.dueSection(2, Arrays.copyOf(texts, 3 * k));
+                x.dueSection(0, unit(0, join(row(1), Arrays.copyOf(places, 4 * k))));
+            }
         });
         sentence("Promise 10", "TOO_LARGE: they stay as they were.", () -> {
             int[] entries = row(1);
@@ -242,6 +256,41 @@ public final class SentencesOfPromises10To16Test extends Sentences {
             x.due(0, "count", 0);
             x.due(0, "count", 1);
         });
+        sentence("Promise 15", "how many entries there are, in place of those before", "their bytes' room too", () -> {
+            Run x = SentencesOfTermsTest.fullOfLetters();
+            x.due('t', "letter", 118, 0, 164);
+            for (int i = 0; i < 2; i++) {
+                x.due(119, "read");
+                x.due('t', "letter", 118, 0, 164);
+                x.due('t', "letter", 1, 0, 254);
+            }
+            x.due(119, "clear");
+            x.due(0, "unit", 1);
+            x.tape("by hand");
+            x.due(1, "bytes", 0, 1, 8);
+            x.due(119, "read");
+            x.due('t', "letter", 118, 0, 164);
+        });
+        sentence("Promise 15", "how many entries there are, in place of those before", "with other attributes", () -> {
+            int[] many = row(1, 17, 1, 1, 21, 2, 8, 3, 21, 4, 14, 5, 10, 6, 19, 7, 21, 8, 21, 0, 0, 0);
+            int[] one = row(11, 'x', 0, 11, 0, 0, 0, 0, 1, 'y', 11, 0, 0, 0, 11, 11);
+            Run x = loaded(unit(0, join(row(1), one, row(1), one, row(1), one, row(0, 0, 0))), many, row('z', 0));
+            x.due(3, "read");
+            x.due(3, "read");
+            x.loadAll(unit(0, 1, 'a', 0, 1, 'b', 0, 0, 1, 'c', 0, 0, 0), row(1, 17, 1, 2, 8, 0, 0, 0), NO_TEXTS);
+            for (int i = 0; i < 2; i++) {
+                x.due(3, "read");
+                x.due(0, "fault", 0);
+                x.due(2, "count", 2);
+                x.due(0, "count", 3);
+                for (int e = 0; e < 3; e++) {
+                    x.due(1, "about", e, 4);
+                    dueLetters(x, e, 0, 'a' + e);
+                }
+                x.due(14, "about", 1, 5);
+                x.due(17, "about", 2, 5);
+            }
+        });
         sentence("Promise 15", "-1 less the PLACE of the FAULT", () -> {
             Run x = loaded(row(1, 0, 0, 0), PLAIN, NO_TEXTS);
             x.due(-1, "read");
@@ -274,6 +323,26 @@ public final class SentencesOfPromises10To16Test extends Sentences {
             dueTape(x, letters("tape"));
             x.due(2, "entry", 1, 7);
         });
+        sentence("Promise 15", ": all stays.", "what was read before", SentencesOfPromises10To16Test::staysRead);
+    }
+
+    /** What was read before stays as well, and so when one read after the other is refused. */
+    private static void staysRead() {
+        int[] right = unit(0, 1, 'x', 0, 11, 0, 0, 0, 2, 5, 0);
+        Run x = loaded(right, row(1, 17, 1, 2, 8, 3, 19, 0, 0, 2, 18, 0, 2, 11, 0, 0, 0), NO_TEXTS);
+        x.due(2, "read");
+        String before = x.picture();
+        x.load(0, unit(0, 1, 'y', 0, 11, 0, 0, 0, 2, 6, 1, 'y', 0, 9, 0, 0, 0, 0, 0));
+        for (int i = 0; i < 2; i++) {
+            x.dueFault(7, 0, 23);
+            same("the entries", x.picture(), before);
+        }
+        x.load(0, right);
+        x.due(2, "read");
+        same("the entries", x.picture(), before);
+        x.load(0, 9);
+        x.dueFault(1, 0, 1);
+        same("the entries", x.picture(), before);
     }
 
     private static void tellFault() {

@@ -85,6 +85,10 @@ public final class SentencesOfPromises17To25Test extends Sentences {
             }
             x.due(400, "count", 2);
         });
+        sentence("Promise 17", "2 different SHAPES of all entries", "many, each of two entries",
+                SentencesOfPromises17To25Test::manyShapes);
+        sentence("Promise 17", "3 different TEXTS of form 14.", "many, each of two attributes",
+                SentencesOfPromises17To25Test::manyTexts);
         sentence("Promise 17", "3 different TEXTS of form 14.", () -> {
             Run x = family();
             x.due(0, "count", 3);
@@ -109,6 +113,52 @@ public final class SentencesOfPromises17To25Test extends Sentences {
                 x.due(OUT_OF_BOUNDS, "count", what);
             }
         });
+    }
+
+    /** Of 12 tags, with a child and without, and with four lists of attributes; 97 is the children's, 98 the root's. */
+    private static void manyShapes() {
+        int[][] lists = {{}, {4, 25}, {4, 25, 5, 25}, {5, 25}};
+        int[] shapes = {};
+        int[] entries = {};
+        for (int i = 0; i < 96; i++) {
+            boolean hasChild = i / 4 % 2 == 1;
+            shapes = join(shapes, row(i + 1, i / 8 + 1, hasChild ? 1 : 0), lists[i % 4], row(0, 0));
+            entries = join(entries, row(i + 1), hasChild ? row(97, 0) : row());
+        }
+        shapes = join(shapes, row(97, 99, 0, 0, 0, 98, 99, 1, 0, 0, 0));
+        Run x = dueRead(1 + 2 * (96 + 48), unit(0, join(row(98), entries, entries, row(0))), shapes);
+        x.due(98, "count", 2);
+        x.answer("write");
+        x.due(1 + 2 * (96 + 48), "read");
+        x.due(98, "count", 2);
+        for (int e = 1; e < 13; e++) {
+            int within = (e - 1) % 12;
+            boolean isChild = within > 3 && within % 2 == 1;
+            x.due(isChild ? 99 : 1, "about", e, 0);
+            x.due(within > 3 && !isChild ? 1 : 0, "about", e, 3);
+        }
+    }
+
+    /** 300 texts of three letters, told by 75 entries with eight attributes each. */
+    private static void manyTexts() {
+        int[] texts = {};
+        int[] entries = row(1);
+        for (int i = 0; i < 300; i++) {
+            texts = join(texts, letters(Integer.toString(100 + i)), row(0));
+        }
+        for (int i = 0; i < 600; i++) {
+            int place = i % 300 * 4;
+            entries = join(entries, i % 8 == 0 ? row(2) : row(), row(place & 255, place >> 8, 0, 0));
+        }
+        int[] shapes = row(1, 1, 1, 0, 0, 2, 1, 0, 1, 14, 2, 14, 3, 14, 4, 14, 5, 14, 6, 14, 7, 14, 8, 14, 0, 0, 0);
+        Run x = dueRead(76, unit(0, join(entries, row(0))), shapes, texts);
+        x.due(300, "count", 3);
+        x.answer("write");
+        x.due(1200, "size", 2);
+        x.due(76, "read");
+        for (int i = 0; i < 600; i += 7) {
+            x.due('0' + i % 300 % 10, "letter", 1 + i / 8, i % 8, 2);
+        }
     }
 
     private static void tellAbout() {
@@ -161,6 +211,30 @@ public final class SentencesOfPromises17To25Test extends Sentences {
             x.due(3, "read");
             x.due(12, "about", 1, 5);
             x.due(13, "about", 2, 5);
+        });
+        sentence("Promise 18", "5 its PLACE in its unit as it would be WRITTEN", "after each change", () -> {
+            Run x = rooted();
+            x.due(1, "entry", 0, 1);
+            x.due(12, "about", 1, 5);
+            x.due(1, "number", 0, 1, 11, 1);
+            x.due(13, "about", 1, 5);
+            text(x, 0, 2, 8, "t");
+            x.due(15, "about", 1, 5);
+            x.due(3, "reference", 0, 3, 19, 0);
+            x.due(19, "about", 1, 5);
+            x.due(4, "reference", 0, 4, 21, 0);
+            x.due(20, "about", 1, 5);
+            x.due(2, "entry", 1, 1);
+            x.due(21, "about", 2, 5);
+            x.due(3, "entry", 0, 1);
+            x.due(23, "about", 3, 5);
+            x.due(4, "clear");
+            x.due(0, "unit", 1);
+            x.due(11, "about", 0, 5);
+            x.due(1, "unit", 1);
+            x.due(11, "about", 1, 5);
+            x.due(2, "entry", 0, 1);
+            x.due(12, "about", 2, 5);
         });
         sentence("Promise 18", "(also when that is too large).", () -> {
             // Texts that are too large for section 2, by ends of one text.
@@ -404,6 +478,14 @@ public final class SentencesOfPromises17To25Test extends Sentences {
             text(x, 0, 3, 8, "n");
             dueFound(x, 0, EntryTree.NONE, "n");
             dueFound(x, 1, 0, "n");
+            // Entry 4 was a root before all was gone, and is none now.
+            x.due(6, "clear");
+            x.due(0, "unit", 1);
+            for (int e = 1; e < 6; e++) {
+                x.due(e, "entry", 0, 1);
+                text(x, e, 3, 8, "n");
+            }
+            dueFound(x, EntryTree.NONE, EntryTree.NONE, "n");
         });
         sentence("Promise 24", "IndexOutOfBoundsException: there is no such entry (the tape stays).", () -> {
             Run x = family();

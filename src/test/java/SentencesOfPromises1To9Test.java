@@ -1,3 +1,5 @@
+import java.util.List;
+
 /** The sentences of promises 1 to 9: the tape, and trees made by hand. */
 public final class SentencesOfPromises1To9Test extends Sentences {
     private static final int[] NO_CODES = {0, -1, 16384, Integer.MIN_VALUE, Integer.MAX_VALUE};
@@ -292,7 +294,7 @@ public final class SentencesOfPromises1To9Test extends Sentences {
         sentence("Promise 6", "IllegalArgumentException: NAME, form", "a form that is none of these", () -> {
             Run x = rooted();
             for (int form = -3; form < 40; form++) {
-                if (!java.util.List.of(5, 6, 7, 11, 12, 13, 15, 25).contains(form)) {
+                if (!List.of(5, 6, 7, 11, 12, 13, 15, 25).contains(form)) {
                     x.due(ARGUMENT, "number", 0, 1, form, 1);
                 }
             }
@@ -585,6 +587,33 @@ public final class SentencesOfPromises1To9Test extends Sentences {
             x.due(0, "about", 0, 4);
             x.due(1, "entry", 0, 9);
             x.due(0, "about", 1, 4);
+        });
+        sentence("Promise 9", "All is gone", "the attributes too, when entries are made again", () -> {
+            Run x = rooted();
+            for (int e = 1; e <= 4; e++) {
+                x.due(e, "entry", 0, 1);
+                for (int k = 1; k <= 8; k++) {
+                    if ((e + k) % 2 == 0) {
+                        x.due(k, "reference", e, e + k, 21, e - 1);
+                    } else {
+                        x.tape('a' + 10 * e + k);
+                        x.due(k, "bytes", e, e + k, 14);
+                    }
+                }
+            }
+            x.due(16, "count", 3);
+            x.due(5, "clear");
+            x.due(0, "unit", 1);
+            for (int e = 1; e <= 4; e++) {
+                x.due(e, "entry", 0, 1);
+                x.due(1, "number", e, 4, 11, 9);
+                x.due(10 + 2 * e, "about", e, 5);
+                x.due(OUT_OF_BOUNDS, "attribute", e, 1, 0);
+            }
+            x.due(2, "count", 2);
+            x.due(0, "count", 3);
+            x.answer("write");
+            x.dueSection(0, unit(0, 1, 2, 9, 2, 9, 2, 9, 2, 9, 0));
         });
         sentence("Promise 9", "but the tape and the sections", () -> {
             Run x = rooted();

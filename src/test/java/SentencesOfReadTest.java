@@ -47,6 +47,22 @@ public final class SentencesOfReadTest extends Sentences {
             x.due(20, "about", 0, 0);
             x.due(17, "about", 1, 0);
         });
+        sentence(READ, "each has its shapes where its header says, until a number 0", "numbers far apart", () -> {
+            int[] shapes = row(1, 1, 1, 0, 0);
+            int[] inside = row(1);
+            for (int i = 1; i < 120; i++) {
+                int[] number = row(128, 128 | i << 1 & 127, 128 | i >> 6, 128 | i % 3, i % 2);
+                shapes = join(shapes, number, row(1 + i, 0, 0, 0));
+                inside = join(inside, number);
+            }
+            Run x = dueRead(120, unit(0, join(inside, row(0))), join(shapes, row(0)));
+            for (int i = 1; i < 120; i++) {
+                x.due(1 + i, "about", i, 0);
+            }
+            dueFault(3, 1, shapes.length, ANY, join(shapes, row(1)));
+            dueFault(3, 1, shapes.length, ANY, join(shapes, row(128, 130, 128, 129, 1)));
+            dueFault(5, 0, 11, unit(0, 128, 130, 128, 1), join(shapes, row(0)));
+        });
         String children = "children go on until a number 0, too";
         sentence(READ, children, () -> {
             Run x = dueRead(5, unit(0, 1, 2, 1, 2, 0, 2, 0), NEST);
@@ -423,6 +439,16 @@ public final class SentencesOfReadTest extends Sentences {
             Run x = dueRead(2, unit(0, 1, 11, 0, 0, 0, 2, 144, 128, 0, 5, 0), shapes);
             x.due(0, "value", 0, 0);
             x.due(1, "value", 1, 0);
+        });
+        sentence(READ, reference, "of an entry that was read before", () -> {
+            Run x = dueRead(5, unit(0, 1, 11, 0, 0, 0, 2, 11, 5, 2, 11, 5, 2, 11, 5, 2, 11, 5, 0), shapes);
+            for (int place = 19; place <= 25; place += 3) {
+                x.load(0, unit(0, 1, place, 0, 0, 0, 2, 11, 5, 0));
+                x.dueFault(7, 0, 12);
+            }
+            int[] nest = row(1, 17, 1, 2, 19, 0, 0, 2, 18, 0, 0, 0, 0);
+            dueRead(400, unit(0, join(row(1, 158, 1, 0, 0), times(399, 2), row(0))), nest).due(399, "value", 0, 0);
+            dueFault(7, 0, 12, unit(0, join(row(1, 159, 1, 0, 0), times(399, 2), row(0))), nest);
         });
         sentence(READ, reference, "of another unit", () -> {
             int[] one = unit(0, 1, 16, 0, 0, 0, 2, 11, 5, 0);

@@ -58,6 +58,20 @@ public final class SentencesOfTermsTest extends Sentences {
             x.due(6, "count", 1);
             x.due(UNSUPPORTED, "unit", 1);
         });
+        sentence(TERMS, "There are UNITS, 6 at most, each with a ROOT", "written and read", () -> {
+            Run x = fresh();
+            for (int u = 0; u < 6; u++) {
+                x.due(u, "unit", 1 + u);
+            }
+            x.due(6, "entry", 5, 9);
+            x.due(6 * 12 + 2 + 7 * 5 + 1, "write");
+            x.dueSection(0, join(unit(0, 1), unit(0, 2), unit(0, 3), unit(0, 4), unit(0, 5), unit(0, 6, 7, 0)));
+            x.due(7, "read");
+            for (int u = 0; u < 6; u++) {
+                x.due(u, "root", u);
+                x.due(1 + u, "about", u, 0);
+            }
+        });
         sentence(TERMS, "ENTRIES, 400 at most", () -> {
             Run x = rooted();
             for (int e = 1; e < 400; e++) {
@@ -137,6 +151,23 @@ public final class SentencesOfTermsTest extends Sentences {
                 x.due(k, "value", 0, k);
             }
             x.due(OUT_OF_BOUNDS, "attribute", 0, 8, 0);
+        });
+        sentence(TERMS, "and ATTRIBUTES in order, 8 at most", "in each of several entries, read too", () -> {
+            Run x = rooted();
+            x.due(1, "entry", 0, 1);
+            x.due(2, "entry", 0, 1);
+            for (int k = 0; k < 24; k++) {
+                x.tape('a' + k);
+                x.due(k / 3 + 1, "bytes", k % 3, k + 1, k % 2 == 0 ? 8 : 14);
+            }
+            x.answer("write");
+            for (int round = 0; round < 2; round++) {
+                for (int k = 0; k < 24; k++) {
+                    x.due(k + 1, "attribute", k % 3, k / 3, 0);
+                    x.due('a' + k, "letter", k % 3, k / 3, 0);
+                }
+                x.due(3, "read");
+            }
         });
         sentence(TERMS, "a NAME 1 .. 16383, each once, a FORM, a VALUE.", () -> {
             Run x = rooted();

@@ -1,3 +1,5 @@
+import java.util.Arrays;
+
 /** The sentences of "2 WRITTEN". */
 public final class SentencesOfWrittenTest extends Sentences {
     private static final String WRITTEN = "2 WRITTEN";
@@ -154,6 +156,7 @@ public final class SentencesOfWrittenTest extends Sentences {
             x.due(9, "entry", 0, 2);
             x.due(9, "count", 2);
         });
+        sentence(WRITTEN, shape, "lists that begin alike", SentencesOfWrittenTest::listsThatBeginAlike);
         sentence(WRITTEN, shape, "what does not: values, how many children, the unit", () -> {
             Run x = rooted();
             x.due(1, "unit", 1);
@@ -228,6 +231,25 @@ public final class SentencesOfWrittenTest extends Sentences {
             x.dueSection(2);
             x.due(0, "read");
         });
+    }
+
+    /** For each of 22 tags the first eight, seven, .. none of eight attributes. */
+    private static void listsThatBeginAlike() {
+        int[] list = row(1, 25, 2, 25, 3, 25, 4, 25, 5, 25, 6, 25, 7, 25, 8, 25);
+        int[] shapes = row(1, 99, 1, 0, 0);
+        int[] entries = row(1);
+        for (int i = 0; i < 198; i++) {
+            int[] number = row(i + 2 & 127 | 128, i + 2 >> 7);
+            shapes = join(shapes, number, row(i / 9 + 1, 0), Arrays.copyOf(list, 2 * (8 - i % 9)), row(0, 0));
+            entries = join(entries, number);
+        }
+        Run x = dueRead(199, unit(0, join(entries, row(0))), join(shapes, row(0)));
+        x.due(199, "count", 2);
+        x.answer("write");
+        x.due(199, "read");
+        for (int i = 0; i < 198; i += 2) {
+            x.due(8 - i % 9, "about", 1 + i, 4);
+        }
     }
 
     private static void text(Run x, int entry, int name, int form, String text) {
@@ -356,6 +378,20 @@ public final class SentencesOfWrittenTest extends Sentences {
             x.due(1, "octet", 0, 13);
             x.due(3, "read");
             x.due(2, "value", 0, 0);
+        });
+        sentence(WRITTEN, begin, "they begin with one byte each time", () -> {
+            // Large first; then all is gone, and entry 2 could lie at 127 with one byte, or at 128 with two.
+            Run x = rooted();
+            for (int length : new int[] {200, 112}) {
+                x.due(1, "entry", 0, 2);
+                x.due(2, "entry", 0, 2);
+                x.due(1, "reference", 0, 1, 21, 2);
+                x.tape(times(length, 't'));
+                x.due(1, "bytes", 1, 1, 8);
+                x.due(length == 112 ? 127 : 216, "about", 2, 5);
+                x.due(3, "clear");
+                x.due(0, "unit", 1);
+            }
         });
         sentence(WRITTEN, begin, "rows that let one another grow", () -> {
             // Of entries 1 to 4 each has a row with the place of the next; with one byte each entry 5 lies at 128.
