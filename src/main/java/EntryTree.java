@@ -1365,7 +1365,11 @@ public final class EntryTree {
                 }
                 int shapesAt = readHeader(sections, start);
                 int end = cursor.end;
-                readTable(sections, shapesAt);
+                if (shapesAt != tablePlace) {
+                    cursor.over(sections, SHAPES, shapesAt, sections.shapes.used());
+                    table.readFrom(cursor);
+                    tablePlace = shapesAt;
+                }
                 cursor.over(sections, ENTRIES, start + HEADER_BYTES, end);
                 readEntries(sections, start);
                 if (cursor.at < end) {
@@ -1397,14 +1401,6 @@ public final class EntryTree {
                 cursor.refuse(BAD_HEADER, first);
             }
             return (int) shapesAt;
-        }
-
-        private void readTable(Sections sections, int shapesAt) {
-            if (shapesAt != tablePlace) {
-                cursor.over(sections, SHAPES, shapesAt, sections.shapes.used());
-                table.readFrom(cursor);
-                tablePlace = shapesAt;
-            }
         }
 
         private void readEntries(Sections sections, int start) {

@@ -160,6 +160,7 @@ public final class SentencesOfWrittenTest extends Sentences {
         sentence(WRITTEN, shape, "what does not: values, how many children, the unit", () -> {
             Run x = rooted();
             x.due(1, "unit", 1);
+            x.due(1, "count", 2);
             x.due(2, "entry", 0, 1);
             x.due(3, "entry", 1, 1);
             x.due(4, "entry", 1, 1);
